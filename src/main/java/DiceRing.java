@@ -1350,7 +1350,9 @@ public final class DiceRing {
                 if ((holders >> i & 1) == 1) {
                     trial[i] = sign * pfaffian(signs, holders ^ 1 << i, MOST_PICKED);
                     sign = -sign;
-                    turned = turned == 0 ? Long.signum(trial[i]) : turned;
+                    if (turned == 0) {
+                        turned = trial[i] < 0 ? -1 : 1;
+                    }
                     trial[i] *= turned;
                     if (trial[i] <= 0) {
                         return false;
@@ -1364,7 +1366,10 @@ public final class DiceRing {
             if (set == 0 || depth <= 0) {
                 return 1;
             }
-            int first = Integer.numberOfTrailingZeros(set);
+            int first = 0;
+            while (first < MOST_PICKED - 1 && (set >> first & 1) == 0) {
+                first++;
+            }
             int rest = set & (set - 1);
             long sum = 0;
             int sign = 1;
@@ -1476,7 +1481,7 @@ public final class DiceRing {
      */
     private static final class FaceSearch {
         static final int DEGREES = MOST_FACE + 1;
-        static final int MOST_STEPS = 1000000000;
+        static final int MOST_STEPS = 100000000;
 
         final Pairs pairs = new Pairs();
         final int[] left = new int[2 * DEGREES];
@@ -1794,6 +1799,9 @@ public final class DiceRing {
 
         int seekLaid(int n, int newWanted) {
             fairBits = 0;
+            if (isCrossed(newWanted)) {
+                return NONE;
+            }
             int most = n == 2 ? 6 : n == 3 ? 4 : 3;
             for (int f = 1; f <= most; f++) {
                 if (seek(n, f, newWanted)) {
@@ -1801,6 +1809,22 @@ public final class DiceRing {
                 }
             }
             return NONE;
+        }
+
+        /** Two dice cannot both beat one another. */
+        private static boolean isCrossed(int pairs) {
+            for (int a = 0; a < MOST_DICE_IN_WORD; a++) {
+                for (int b = 0; b < a; b++) {
+                    if (isTold(pairs, a, b) && isTold(pairs, b, a)) {
+                        return true;
+                    }
+                }
+            }
+            return false;
+        }
+
+        private static boolean isTold(int pairs, int winner, int loser) {
+            return (pairs >> winner * MOST_DICE_IN_WORD + loser & 1) == 1;
         }
 
         private boolean seek(int n, int f, int newWanted) {
@@ -1862,7 +1886,7 @@ public final class DiceRing {
             }
             for (int a = 0; a < dice; a++) {
                 for (int b = 0; b < dice; b++) {
-                    if ((wanted >> a * MOST_DICE_IN_WORD + b & 1) == 1 && !canBeat(a, b)) {
+                    if (isTold(wanted, a, b) && !canBeat(a, b)) {
                         return false;
                     }
                 }
