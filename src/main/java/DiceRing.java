@@ -35,6 +35,7 @@ public final class DiceRing {
     private final Teller teller = new Teller();
     private int faultKind;
     private final Net net = new Net();
+    private boolean netIsOld;
     private final Game game = new Game();
     private final FaceSearch faceSearch = new FaceSearch();
     private final WordCount wordCount = new WordCount();
@@ -95,7 +96,7 @@ public final class DiceRing {
         Table old = now;
         now = next;
         next = old;
-        net.read(now);
+        netIsOld = true;
         return now.names;
     }
 
@@ -183,15 +184,24 @@ public final class DiceRing {
         if (!throwBoth(a, b, k)) {
             return NOT_TOLD;
         }
-        return Long.compare(firstThrown.above(secondThrown), secondThrown.above(firstThrown));
+        return Long.compare(firstThrown.lead(secondThrown), 0);
+    }
+
+    /** The net of this TABLE: it takes many comparisons, so it is made when it is first asked for. */
+    private Net freshNet() {
+        if (netIsOld) {
+            net.read(now);
+            netIsOld = false;
+        }
+        return net;
     }
 
     public int beaten(int a) {
-        return now.has(a) ? net.beatenBy(a) : NONE;
+        return now.has(a) ? freshNet().beatenBy(a) : NONE;
     }
 
     public int ring() {
-        return net.seekRing();
+        return freshNet().seekRing();
     }
 
     public int ringAt(int k) {
@@ -199,22 +209,22 @@ public final class DiceRing {
     }
 
     public int threes() {
-        return net.countThrees();
+        return freshNet().countThrees();
     }
 
     public int top() {
-        return net.leastTop();
+        return freshNet().leastTop();
     }
 
     public int anyTwo() {
-        return net.firstTwoUnbeaten();
+        return freshNet().firstTwoUnbeaten();
     }
 
     public int picks(int set) {
         if (set <= 0 || (set >> now.names) != 0 || Integer.bitCount(set) > MOST_PICKED) {
             return NOT_TOLD;
         }
-        return game.play(net, set);
+        return game.play(freshNet(), set);
     }
 
     public int pickAt(int k) {
@@ -488,22 +498,16 @@ public final class DiceRing {
             return a.total * b.total > MOST_WAYS;
         }
 
-        void takeHigher(Row a, Row b) {
-            blank(Math.max(a.least, b.least), Math.max(a.greatest, b.greatest), a.total * b.total);
+        /** The higher (or the lower) of two: towards that end each number goes with all passed of the other one. */
+        void takeEnd(Row a, Row b, boolean higher) {
+            int low = Math.min(a.least, b.least);
+            int high = Math.max(a.greatest, b.greatest);
+            blank(higher ? Math.max(a.least, b.least) : low, higher ? high : Math.min(a.greatest, b.greatest),
+                    a.total * b.total);
             long passedA = 0;
             long passedB = 0;
-            for (int n = Math.min(a.least, b.least); n <= greatest; n++) {
-                put(n, a.at(n) * (passedB + b.at(n)) + passedA * b.at(n));
-                passedA += a.at(n);
-                passedB += b.at(n);
-            }
-        }
-
-        void takeLower(Row a, Row b) {
-            blank(Math.min(a.least, b.least), Math.min(a.greatest, b.greatest), a.total * b.total);
-            long passedA = 0;
-            long passedB = 0;
-            for (int n = Math.max(a.greatest, b.greatest); n >= least; n--) {
+            for (int i = 0; i <= high - low; i++) {
+                int n = higher ? low + i : high - i;
                 put(n, a.at(n) * (passedB + b.at(n)) + passedA * b.at(n));
                 passedA += a.at(n);
                 passedB += b.at(n);
@@ -525,6 +529,19 @@ public final class DiceRing {
             for (int n = Math.min(least, other.least); n <= greatest; n++) {
                 sum += at(n) * passed;
                 passed += other.at(n);
+            }
+            return sum;
+        }
+
+        /** GREATER less LESS. */
+        long lead(Row other) {
+            long sum = 0;
+            long passed = 0;
+            long passedOther = 0;
+            for (int n = Math.min(least, other.least); n <= Math.max(greatest, other.greatest); n++) {
+                sum += at(n) * passedOther - other.at(n) * passed;
+                passed += at(n);
+                passedOther += other.at(n);
             }
             return sum;
         }
@@ -882,12 +899,10 @@ public final class DiceRing {
                 tooMuch = true;
             }
             if (!tooMuch) {
-                if (word == Teller.HIGH) {
-                    spare.takeHigher(a, b);
-                } else if (word == Teller.LOW) {
-                    spare.takeLower(a, b);
-                } else {
+                if (word == Teller.MORE) {
                     spare.takeMore(a, b);
+                } else {
+                    spare.takeEnd(a, b, word == Teller.HIGH);
                 }
                 swapSpare(slot(1));
             }
@@ -1148,11 +1163,10 @@ public final class DiceRing {
             Arrays.fill(beaten, 0);
             for (int a = 0; a < names; a++) {
                 for (int b = a + 1; b < names; b++) {
-                    long greater = table.row(a).above(table.row(b));
-                    long less = table.row(b).above(table.row(a));
-                    if (greater > less) {
+                    long lead = table.row(a).lead(table.row(b));
+                    if (lead > 0) {
                         beaten[a] |= 1 << b;
-                    } else if (less > greater) {
+                    } else if (lead < 0) {
                         beaten[b] |= 1 << a;
                     }
                 }
@@ -1542,7 +1556,7 @@ public final class DiceRing {
                     take(d, 1);
                 } else if (d < deepest) {
                     d++;
-                    tried[d] = p - laidX + 1;
+                    tried[d] = Math.min(p - laidX, y[0] > 0 ? left[d] / y[0] : 0) + 1;
                 } else {
                     take(d, 1);
                 }
@@ -1640,6 +1654,7 @@ public final class DiceRing {
         final int[] twos = new int[16];
         final int[] threes = new int[64];
         final int[] fours = new int[256];
+        final int[] places = new int[MOST_DICE_IN_WORD * MOST_DICE_IN_WORD];
         int dice;
 
         void start(int newDice) {
@@ -1681,13 +1696,13 @@ public final class DiceRing {
             return Integer.bitCount(seen) == length;
         }
 
+        /** Whether all dice are in it: as there are no more places than dice, none is in it twice. */
         private boolean isOrder(int code) {
+            int seen = 0;
             for (int i = 0; i < dice; i++) {
-                if ((code >> 2 * i & 3) >= dice) {
-                    return false;
-                }
+                seen |= 1 << (code >> 2 * i & 3);
             }
-            return code >= 0 && code < 1 << 2 * dice && isOfUnlike(code, dice);
+            return code >= 0 && code < 1 << 2 * dice && seen == (1 << dice) - 1;
         }
 
         private int rowsOf(int code) {
@@ -1727,16 +1742,24 @@ public final class DiceRing {
             if (d < 0 || d >= dice || place < 0 || place >= dice) {
                 return NONE;
             }
-            int times = 0;
-            for (int code = 0; code < 1 << 2 * dice; code++) {
-                if ((code >> 2 * (dice - 1 - place) & 3) == d && isOrder(code)) {
-                    times += rowsOf(code);
-                }
-            }
-            return times;
+            return places[d * MOST_DICE_IN_WORD + place];
         }
 
+        private void countPlaces() {
+            Arrays.fill(places, 0);
+            for (int code = 0; code < 1 << 2 * dice; code++) {
+                if (isOrder(code)) {
+                    for (int place = 0; place < dice; place++) {
+                        int d = code >> 2 * (dice - 1 - place) & 3;
+                        places[d * MOST_DICE_IN_WORD + place] += rowsOf(code);
+                    }
+                }
+            }
+        }
+
+        /** FAIR of the letters taken; from then on places are told too. */
         int fairness() {
+            countPlaces();
             int bits = 7;
             for (int d = 0; d < dice; d++) {
                 if (timesPlaced(d, dice - 1) != timesPlaced(0, dice - 1)) {

@@ -63,6 +63,10 @@ public final class NameTest {
         DiceRing x = Due.told("die a 1 2 3;die b 2 2 5;let c = high(a, b);let d = low(a, b);let e = more(a, b);"
                 + "let f = more(b, a);let g = more(a, 0);let h = more(0, a);let i = high(a, 9) + low(a, 0);"
                 + "let j = 2 of more(a, a);let k = high(high(a, a), a);let l = low(-a, -b);");
+        DiceRing one = Due.told("let a = more(2, 1);let b = more(1, 2);die c 1 2;let d = more(c, c);");
+        looks(one, 0, 0, 1, 1, 1);
+        looks(one, 1, 0, 0, 0, 1);
+        looks(one, 3, 0, 0, 1, 4);
         looks(x, 2, 0, 2, 5, 9);
         hasWays(x, 2, 2, 4, 2, 0, 3);
         looks(x, 3, 0, 1, 3, 9);

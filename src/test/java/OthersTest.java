@@ -8,6 +8,7 @@ public final class OthersTest {
     public static void main(String[] args) {
         sicherman();
         orderOfPairs();
+        wideFaces();
         unlikeNumbersOfFaces();
         edges();
         moreThanKept();
@@ -62,6 +63,17 @@ public final class OthersTest {
         // of p = q x's FACES are not behind y's
         DUE.is("others(0, 1, 4, 4, 0)", y.others(0, 1, 4, 4, 0), 1);
         pair(y, 0, l(0, 0, 0, 0), l(0, 0, 1, 1));
+    }
+
+    /** What begins with the least FACE comes first, also where it is found late. */
+    private static void wideFaces() {
+        DiceRing x = Due.told("die a 5 6;die b 5 25 40 60;");
+        DUE.is("others(0, 1, 2, 4, 0)", x.others(0, 1, 2, 4, 0), 28);
+        pair(x, 0, l(0, 20), l(10, 11, 45, 46));
+        pair(x, 1, l(0, 35), l(10, 11, 30, 31));
+        pair(x, 10, l(5, 6), l(5, 25, 40, 60));
+        pair(x, 11, l(5, 25), l(5, 6, 40, 41));
+        pair(x, 27, l(10, 45), l(0, 1, 20, 21));
     }
 
     private static void unlikeNumbersOfFaces() {

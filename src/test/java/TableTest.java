@@ -14,6 +14,7 @@ public final class TableTest {
         theFirstFaultAndTheLeast();
         longTexts();
         faultsLeaveTheTable();
+        oneTableAfterAnother();
         DUE.end();
     }
 
@@ -242,5 +243,17 @@ public final class TableTest {
         DUE.is("beaten(1) then", x.beaten(1), -1);
         DUE.is("table() of an empty tape", x.table(), 0);
         DUE.is("count(0) then", x.count(0), 0);
+    }
+
+    /** What one text left half done is of no weight for the next. */
+    private static void oneTableAfterAnother() {
+        DiceRing x = new DiceRing();
+        for (int i = 0; i < 8; i++) {
+            DUE.is("table() of twelve", Due.tell(x, TWELVE), 12);
+            DUE.is("table() of TOO MUCH", Due.tell(x, "let a = 1;let b = 6 of 60;"), -26);
+            DUE.is("table() cut off", Due.tell(x, "let a = high(1,(2+(3"), -21);
+        }
+        DUE.is("table() then", Due.tell(x, "let a = 1 + 2 of 3;"), 1);
+        DUE.is("ways(0, 7)", x.ways(0, 7), 1);
     }
 }

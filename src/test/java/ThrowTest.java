@@ -137,7 +137,7 @@ public final class ThrowTest {
 
     private static void shifts() {
         DiceRing x = Due.told("die a 1 2 2 5;die b 0 1 1 4;die c 1 4 4 5;die d 1 1 2 2 2 2 5 5;let e = 60+60+60+20;let f = -e;"
-                + "let g = a + 60;die h 1 5 5 2;die i 1 2 2 6;");
+                + "let g = a + 60;die h 1 5 5 2;die i 1 2 2 6;die j 1 2 2 5 5;");
         DUE.is("shift(0, 1)", x.shift(0, 1), -1);
         DUE.is("shift(1, 0)", x.shift(1, 0), 1);
         DUE.is("shift(0, 0)", x.shift(0, 0), 0);
@@ -149,8 +149,9 @@ public final class ThrowTest {
         DUE.is("shift(0, 7)", x.shift(0, 7), 1000);
         DUE.is("shift(0, 8)", x.shift(0, 8), 1000);
         DUE.is("shift(8, 0)", x.shift(8, 0), 1000);
-        DUE.isThrown("shift(0, 9)", () -> x.shift(0, 9));
-        DUE.isThrown("shift(9, 0)", () -> x.shift(9, 0));
+        DUE.is("shift(0, 9), unlike at the greatest number alone", x.shift(0, 9), 1000);
+        DUE.isThrown("shift(0, 10)", () -> x.shift(0, 10));
+        DUE.isThrown("shift(10, 0)", () -> x.shift(10, 0));
         DUE.isThrown("shift(-1, 0)", () -> x.shift(-1, 0));
         DUE.isThrown("shift(0, -1)", () -> x.shift(0, -1));
     }

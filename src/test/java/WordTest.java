@@ -86,7 +86,7 @@ public final class WordTest {
         DUE.is("order(12) ahead of any", x.order(12), -1);
         DUE.is("placed(0, 0) ahead of any", x.placed(0, 0), -1);
         String[] bad = {"", "a", "aa", "aab", "abb", "bb", "ac", "acac", "bcbc", "abcde", "ab ", "a b", "AB", "abc1", "`a",
-            "aaaaaaabbbbbbb", "abababababababababababababab", "abcabcabcabcabcabcabc", "ab\0", "cba1", "abcdd"};
+            "aaaaaaabbbbbbb", "abababababababababababababab", "abcabcabcabcabcabcabc", "ab\0", "cba1", "abcdd", "a`c", "a c", "adcdac"};
         for (String word : bad) {
             DUE.is("fair() of " + word, fair(x, word), -1);
         }
@@ -123,6 +123,10 @@ public final class WordTest {
             first(2, 6, bits, "aaabbbbbbaaa");
         }
         DiceRing x = new DiceRing();
+        for (int f = 2; f <= 6; f += 2) {
+            DUE.is("firstWord(2, " + f + ", 7) on one object", x.firstWord(2, f, 7), 1);
+        }
+        isWord(x, "aaabbbbbbaaa");
         for (int f = 1; f <= 6; f++) {
             if (f % 2 == 1) {
                 DUE.is("firstWord(2, " + f + ", 1)", x.firstWord(2, f, 1), 0);
@@ -167,6 +171,8 @@ public final class WordTest {
         laid(3, "cba", 0, 1, 1, 2, 0, 2);
         laid(3, "acbbaccba", 0, 1, 1, 2, 2, 0);
         laid(4, "dcba", 0, 1, 1, 2, 2, 3);
+        laid(4, "abdccbaddcba", 0, 1, 1, 2, 2, 3, 3, 0);
+        laid(4, "acccdbbaddba", 0, 1, 1, 3, 3, 0);
         laid(4, "dcba", 0, 1, 0, 1, 0, 1, 0, 1, 1, 2, 1, 2, 1, 2, 1, 2, 2, 3, 2, 3, 2, 3, 0, 3);
     }
 
