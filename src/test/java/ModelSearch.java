@@ -82,21 +82,39 @@ final class ModelSearch {
         }
     }
 
-    /** Each FACE of x comes with each of y: there must be numbers y that go with all of x that are laid. */
+    /** As further FACES of x are not below the last one, what sums there are below must be made by those laid. */
     private static boolean canBe(int[] sums, int[] x, int laid, int q, int least) {
-        int together = 0;
-        for (int face = least; face <= 60; face++) {
-            int fewest = Integer.MAX_VALUE;
-            for (int i = 0; i < laid; i++) {
-                int alike = 0;
-                for (int j = 0; j < laid; j++) {
-                    alike += x[j] == x[i] ? 1 : 0;
+        int lowest = lowest(sums);
+        int[] left = sums.clone();
+        int faces = 0;
+        for (int sum = lowest; sum < lowest + x[laid - 1] - x[0]; sum++) {
+            while (left[sum] > 0) {
+                int y = sum - x[0];
+                faces++;
+                if (y < least || y > 60 || faces > q || !takeAll(left, x, laid, y)) {
+                    return false;
                 }
-                fewest = Math.min(fewest, sums[x[i] + face] / alike);
             }
-            together += fewest;
         }
-        return together >= q;
+        return true;
+    }
+
+    private static int lowest(int[] sums) {
+        int lowest = 0;
+        while (sums[lowest] == 0) {
+            lowest++;
+        }
+        return lowest;
+    }
+
+    private static boolean takeAll(int[] left, int[] x, int laid, int y) {
+        for (int i = 0; i < laid; i++) {
+            left[x[i] + y]--;
+            if (left[x[i] + y] < 0) {
+                return false;
+            }
+        }
+        return true;
     }
 
     /** The q FACES of y, from the least sum on; null, if they do not come out. */
@@ -104,18 +122,12 @@ final class ModelSearch {
         int[] left = sums.clone();
         int[] y = new int[q];
         for (int i = 0; i < q; i++) {
-            int sum = 0;
-            while (left[sum] == 0) {
-                sum++;
-            }
-            y[i] = sum - x[0];
+            y[i] = lowest(left) - x[0];
             if (y[i] < least || y[i] > 60) {
                 return null;
             }
-            for (int face : x) {
-                if (--left[face + y[i]] < 0) {
-                    return null;
-                }
+            if (!takeAll(left, x, x.length, y[i])) {
+                return null;
             }
         }
         return y;

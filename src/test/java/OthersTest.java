@@ -129,6 +129,11 @@ public final class OthersTest {
         DUE.is("others(5, 5, 1, 1, 31)", x.others(5, 5, 1, 1, 31), 0);
         DUE.is("others(2, 1, 1, 2, 0)", x.others(2, 1, 1, 2, 0), 60);
         DUE.is("others(2, 2, 2, 2, 0)", x.others(2, 2, 2, 2, 0), 1);
+        // what reaches 60 and does not come out is given back
+        DiceRing high = Due.told("die a 58 60;die b 57 57 58 58 59 59;");
+        DUE.is("others(0, 1, 2, 6, 57)", high.others(0, 1, 2, 6, 57), 2);
+        pair(high, 0, l(57, 59), l(58, 58, 59, 59, 60, 60));
+        pair(high, 1, l(58, 60), l(57, 57, 58, 58, 59, 59));
         DUE.is("others(4, 4, 8, 8, 1)", x.others(4, 4, 8, 8, 1), 4);
         DUE.is("others(4, 4, 1, 64, 1)", x.others(4, 4, 1, 64, 1), 1);
         DUE.is("otherAt(0, 1, 63)", x.otherAt(0, 1, 63), 15);

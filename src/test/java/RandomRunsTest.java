@@ -9,7 +9,7 @@ import java.util.Random;
 /** All promises: runs of calls made up by a seeded random source, held against the Model. */
 public final class RandomRunsTest {
     private static final Due DUE = new Due("RandomRunsTest");
-    private static final int RUNS = 200;
+    private static final int RUNS = 600;
     private static final int MOST_CALLS = 512;
 
     private final Random random;
@@ -169,8 +169,8 @@ public final class RandomRunsTest {
         for (String word : List.of("a", "b", "c")) {
             text.append("die ").append(word);
             int step = oneOf(1, 1, 2, 3, 8);
-            int from = random.nextInt(4);
             int faces = oneOf(1, 2, 4, 4, 6, 6, 8);
+            int from = random.nextInt(oneOf(4, 4, 61 - step * (faces - 1)));
             for (int i = 0; i < faces; i++) {
                 text.append(' ').append(from + i * step);
             }
@@ -341,7 +341,7 @@ public final class RandomRunsTest {
         }
         int q = oneOf(faces / p, faces / p, faces / p, faces / p, faces, 0, -1, 7);
         call("others", a, b, random.nextInt(20) == 0 ? q : p, random.nextInt(20) == 0 ? p : q,
-                oneOf(0, 0, 0, 1, 1, 2, 5, random.nextInt(61), 61, -1));
+                oneOf(0, 0, 0, 1, 1, 2, lowest(a), lowest(b), random.nextInt(61), 61, -1));
         for (int i = 0; i < 6; i++) {
             call("otherAt", oneOf(0, 0, 1, 2, 50, 99, 100, -1), oneOf(0, 1, 0, 1, 2, -1), oneOf(0, 1, 2, 3, q - 1, q, -1));
         }
@@ -349,6 +349,10 @@ public final class RandomRunsTest {
 
     private int facesOf(int k) {
         return k < 0 || k >= model.names().size() ? 0 : model.names().get(k).faces.size();
+    }
+
+    private int lowest(int k) {
+        return facesOf(k) == 0 ? 0 : Collections.min(model.names().get(k).faces);
     }
 
     private int smallDie() {
