@@ -31,7 +31,6 @@ public final class DiceRing {
     private final int[] tape = new int[MOST_TAPE];
     private int tapeLength;
     private Table now = new Table();
-    private Table next = new Table();
     private final Teller teller = new Teller();
     private int faultKind;
     private final Net net = new Net();
@@ -89,13 +88,11 @@ public final class DiceRing {
 
     public int table() {
         int length = takeTape();
-        faultKind = teller.tell(tape, length, next);
+        faultKind = teller.tell(tape, length);
         if (faultKind != 0) {
             return -1 - teller.faultPlace;
         }
-        Table old = now;
-        now = next;
-        next = old;
+        now = teller.handOver(now);
         netIsOld = true;
         return now.names;
     }
@@ -936,8 +933,7 @@ public final class DiceRing {
         int faultPlace;
 
         /** The kind of the first FAULT; 0, if there is none. */
-        int tell(int[] text, int length, Table target) {
-            told = target;
+        int tell(int[] text, int length) {
             told.names = 0;
             faultKind = 0;
             faultPlace = 0;
@@ -950,6 +946,13 @@ public final class DiceRing {
                 failHere(NO_SENSE);
             }
             return faultKind;
+        }
+
+        /** The TABLE that has been told; the old one is told anew next time. */
+        Table handOver(Table old) {
+            Table good = told;
+            told = old;
+            return good;
         }
 
         private boolean failHere(int kind) {
@@ -1445,7 +1448,7 @@ public final class DiceRing {
             q = newQ;
         }
 
-        /** Where the pair with x's least FACE goes, as those of like least FACES come in their order; a slot, or NONE. */
+        /** A slot for a pair by x's least FACE, behind those of the same that have come; NONE, if it is too late. */
         int makeRoom(int start) {
             int at = kept;
             while (at > 0 && starts[at - 1] > start) {
