@@ -1,22 +1,64 @@
+import java.io.IOException;
 import java.nio.charset.StandardCharsets;
+import java.nio.file.Files;
+import java.nio.file.Path;
 import java.util.NoSuchElementException;
 import java.util.function.LongSupplier;
 
 /** What a test holds against the answers, and how it lays texts and bytes on the tape. */
 final class Due {
+    private static final Path DOCUMENT = Path.of("../shared/DOC.md");
+
     private final String name;
     private int looked;
     private int wrong;
+    private int sentences;
+    private int lookedAhead;
+    private String sentence = "";
+    private String document = "";
 
     Due(String name) {
         this.name = name;
     }
 
+    /** What the document says, in its words, of what is looked at next; a sentence that nothing looks at is wrong. */
+    void sentence(String words) {
+        endSentence();
+        sentences++;
+        sentence = words;
+        if (!isInDocument(words)) {
+            wrong("the document does not say so");
+        }
+        lookedAhead = looked;
+    }
+
+    private boolean isInDocument(String words) {
+        if (!Files.exists(DOCUMENT)) {
+            return true;
+        }
+        try {
+            document = document.isEmpty() ? Files.readString(DOCUMENT, StandardCharsets.UTF_8).replaceAll("\\s+", " ") : document;
+        } catch (IOException e) {
+            return false;
+        }
+        return document.contains(words);
+    }
+
+    private void endSentence() {
+        if (!sentence.isEmpty() && looked == lookedAhead) {
+            wrong("nothing was looked at");
+        }
+    }
+
+    private void wrong(String what) {
+        wrong++;
+        System.out.println(name + ": " + what + (sentence.isEmpty() ? "" : " [" + sentence + "]"));
+    }
+
     void is(String call, long got, long want) {
         looked++;
         if (got != want) {
-            wrong++;
-            System.out.println(name + ": " + call + " answered " + got + ", due is " + want);
+            wrong(call + " answered " + got + ", due is " + want);
         }
     }
 
@@ -36,15 +78,16 @@ final class Due {
         looked++;
         try {
             long got = asked.getAsLong();
-            wrong++;
-            System.out.println(name + ": " + call + " answered " + got + ", due is a NoSuchElementException");
+            wrong(call + " answered " + got + ", due is a NoSuchElementException");
         } catch (NoSuchElementException due) {
             return;
         }
     }
 
     void end() {
-        System.out.println(name + ": " + looked + " looked at, " + wrong + " wrong");
+        endSentence();
+        System.out.println(name + ": " + (sentences == 0 ? "" : sentences + " sentences, ") + looked + " looked at, " + wrong
+                + " wrong");
         if (wrong != 0) {
             System.exit(1);
         }
