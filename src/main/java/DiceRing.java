@@ -440,8 +440,8 @@ public final class DiceRing {
         }
 
         private void blank(int newLeast, int newGreatest, long newTotal) {
-            for (int n = least; n <= greatest; n++) {
-                put(n, 0);
+            for (int i = Math.max(0, least + reach); i <= greatest + reach && i < ways.length; i++) {
+                ways[i] = 0;
             }
             least = newLeast;
             greatest = newGreatest;

@@ -185,7 +185,13 @@ public final class OthersEdgesTest {
     /** All that there are, against all there can be, tried one by one. */
     private static void sameSums() {
         DUE.sentence("so that x and y added have the WAYS of a and b added;");
-        String[] dice = {"die a 5 8;die b 7 5 6 7 3;", "die a 0;die b 3 0 4 3 5 3;", "die a 2 1 3;die b 0 1 3 3 2 3;",
+        // 0 1 goes into these sums too, but with less than no FACES of one number on the other side
+        DiceRing x = Due.told("die a 0 3;die b 0 5;");
+        others(x, 0, 1, 2, 2, 0, 1);
+        pair(x, 0, f(0, 3), f(0, 5));
+        others(x, 1, 0, 1, 4, 0, 1);
+        pair(x, 0, f(0), f(0, 3, 5, 8));
+        String[] dice = {"die a 0 3;die b 0 5;", "die a 5 8;die b 7 5 6 7 3;", "die a 0;die b 3 0 4 3 5 3;", "die a 2 1 3;die b 0 1 3 3 2 3;",
             "die a 0 4 2 4 4 6 7 0;die b 2 2;", "die a 4 6 1 2 4 6 3;die b 6 5 6 5 5 1 5 6;", "die a 3 5;die b 5 5 5 0 5 5 5 0;",
             "die a 1 2 0 0 0 1 0;die b 1 0 2 1 1 1 1 2;", "die a 1 1;die b 1 1 1;", EIGHT + "die b 1 2 3 4;", SIX + "die b 0 0 60 60;"};
         for (String text : dice) {

@@ -239,6 +239,15 @@ public final class TapeEdgesTest {
         Due.tell(x, twelve.toString());
         DUE.is("count(0) of twelve", x.count(0), 12);
         DUE.is("count(1) of twelve", x.count(1), 12);
+        // dice that are no more, in either of the TABLES ahead, are not counted
+        Due.tell(x, twelve.toString());
+        for (int many = 0; many < 3; many++) {
+            String few = twelve.substring(0, 8 * many);
+            DUE.is("table() of " + few, Due.tell(x, few), many);
+            DUE.is("count(0) of " + few, x.count(0), many);
+            DUE.is("count(1) of " + few, x.count(1), many);
+            Due.tell(x, twelve.toString());
+        }
         x.feed(1, 2, 3, 4, 5);
         x.feed(1, 2, 3, 4, 5);
         x.end(33);
