@@ -41,6 +41,11 @@ public final class BeatEdgesTest {
     }
 
     private static void greaterLessEven() {
+        DUE.sentence("GREATER (what 0), LESS (1), EVEN (2) of NAMES a and b in k THROWS;");
+        DiceRing coins = Due.told("die a 1 2 2;die b 2 1 0 0;");
+        DUE.is("against(0, 1, 1, 0)", coins.against(0, 1, 1, 0), 8);
+        DUE.is("against(0, 1, 1, 1)", coins.against(0, 1, 1, 1), 1);
+        DUE.is("against(0, 1, 1, 2)", coins.against(0, 1, 1, 2), 3);
         DUE.sentence("GREATER, LESS, EVEN: of ALL times ALL those WAYS in which the first is greater, less, or even.");
         DiceRing x = Due.told("die a 1 2 3;die b 2 2;let c=-a;let d=2;let e=60+60+60+20;let f=-e;die g 2 3;let h=1;");
         against(x, 0, 1, 1, 2, 2, 2);
@@ -382,6 +387,19 @@ public final class BeatEdgesTest {
     }
 
     private static void anyTwo() {
+        DUE.sentence("ANY TWO: for each two NAMES another one BEATS both.");
+        anyTwo(SEVEN, -1);
+        // without one of the seven some two are beaten by no other one
+        String[] lines = SEVEN.split(";");
+        for (String without : lines) {
+            DiceRing six = Due.told(SEVEN.replace(without + ";", ""));
+            int two = six.anyTwo();
+            DUE.is("two of six are there", two >= 1 && two / 100 < two % 100 && two % 100 < 6, true);
+            for (int other = 0; other < 6; other++) {
+                int both = 1 << two / 100 | 1 << two % 100;
+                DUE.is("one that beats both", (six.beaten(other) & both) == both, false);
+            }
+        }
         DUE.sentence("NONE: ANY TWO (also with fewer than two NAMES).");
         anyTwo("", -1);
         anyTwo("let a=1;", -1);

@@ -8,6 +8,7 @@ public final class TextEdgesTest {
         words();
         numbers();
         runsOfSigns();
+        signs();
         theSinglePoint();
         lines();
         facesOfADie();
@@ -173,6 +174,21 @@ public final class TextEdgesTest {
             good(text, 1);
         } else {
             bad(text, 1, isLetter(sign) || isDigit(sign) ? 6 : isBlank(sign) || sign == ';' ? 8 : 7);
+        }
+    }
+
+    /** Each sign is a TOKEN by itself: two of them side by side are two, and the second one is where the FAULT is. */
+    private static void signs() {
+        DUE.sentence("; = + - ( ) , .");
+        String all = "let a=high(-1+2,3-(4));";
+        good(all, 1);
+        good(all.replaceAll("([;=+(),-])", " $1\n"), 1);
+        for (char sign : ";=+-(),.".toCharArray()) {
+            bad("let a=" + sign + sign + "1;", 1, sign == '-' ? 7 : sign == '(' ? 9 : 6);
+            bad("let a=1" + sign + sign + "1;", 1, sign == '+' || sign == '-' || sign == ';' ? 8 : 7);
+            bad("die a 1" + sign + sign, 1, sign == ';' ? 8 : 7);
+            bad("die a 1;" + sign, 1, 8);
+            bad("die" + sign + "a 1;", 1, 3);
         }
     }
 

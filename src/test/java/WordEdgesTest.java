@@ -370,6 +370,8 @@ public final class WordEdgesTest {
     /** Of each net of two told dice and of none: the first WORD of the fewest FACES, of all WORDS. */
     private static void laidOfEveryNet() {
         DUE.sentence("LAID: of n dice (2 to 4) so that told ones beat told ones (more than half of their FACES' pairs): the fewest FACES f");
+        laid(3, 3, 0, 1, 1, 2, 2, 0);
+        DUE.sentence("(1 to 6 of 2 dice, to 4 of 3, to 3 of 4); of these the first WORD.");
         for (int n = 2; n <= 4; n++) {
             List<Map<Integer, String>> firsts = new ArrayList<>();
             for (int f = 1; f <= (n == 2 ? 6 : n == 3 ? 4 : 3); f++) {
