@@ -10,8 +10,8 @@ import java.util.Random;
 /** Any numbers in any state: no call throws but what its face tells. */
 public final class AnyNumbersTest {
     private static final Due DUE = new Due("AnyNumbersTest");
-    private static final int RUNS = 300;
-    private static final int MOST_CALLS = 400;
+    private static final int RUNS = 400;
+    private static final int MOST_CALLS = 300;
     private static final int[] NUMBERS = {0, 1, 2, 3, 4, 5, 6, 7, 8, 10, 11, 12, 13, 20, 60, 61, 64, 99, 100, 200, 201, 255, 256,
         500, 512, 540, 541, 1000, 1234, 4095, 4096, 65536, 1 << 24, 1 << 30, 1 << 31, Integer.MAX_VALUE, -1, -2, -60, -200, -201,
         -1000, Integer.MIN_VALUE + 1, 0x00010102, 0x61626261, 0x3b3b3b3b};

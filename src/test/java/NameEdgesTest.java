@@ -31,7 +31,8 @@ public final class NameEdgesTest {
     }
 
     /** The WAYS of all numbers from -210 to 210; those from one on are told, the others have none. */
-    private static void hasWays(DiceRing x, int k, int from, long... want) {
+    private static void hasWays(String text, int k, int from, long... want) {
+        DiceRing x = Due.told(text);
         long all = 0;
         for (long many : want) {
             all += many;
@@ -50,7 +51,7 @@ public final class NameEdgesTest {
 
     private static void ways() {
         DUE.sentence("Each NAME has WAYS: of each number, how many; ALL of them together. A die: each FACE one WAY. A NUMBER: one WAY.");
-        DiceRing x = Due.told("die a 3 1 3;die b 0;die c 60;die d 5 5 5 5 5 5 5 5 5 5 5 5;let e=0;let f=60;let g=a;let h=(g);");
+        String x = "die a 3 1 3;die b 0;die c 60;die d 5 5 5 5 5 5 5 5 5 5 5 5;let e=0;let f=60;let g=a;let h=(g);";
         hasWays(x, 0, 1, 1, 0, 2);
         hasWays(x, 1, 0, 1);
         hasWays(x, 2, 60, 1);
@@ -63,8 +64,8 @@ public final class NameEdgesTest {
 
     private static void thrownApart() {
         DUE.sentence("What stands in a SUM is thrown apart each time it stands there: ALL are multiplied.");
-        DiceRing x = Due.told("die a 0 1 1;let b=a+a;let c=a-a;let d=high(a,a);let e=low(a,a);let f=more(a,a);let g=3 of a;"
-                + "let h=a+1;let i=1 of a;let j=b+b;let k=b-2 of b;");
+        String x = "die a 0 1 1;let b=a+a;let c=a-a;let d=high(a,a);let e=low(a,a);let f=more(a,a);let g=3 of a;"
+                + "let h=a+1;let i=1 of a;let j=b+b;let k=b-2 of b;";
         hasWays(x, 1, 0, 1, 4, 4);
         hasWays(x, 2, -1, 2, 5, 2);
         hasWays(x, 3, 0, 1, 8);
@@ -74,19 +75,19 @@ public final class NameEdgesTest {
         hasWays(x, 7, 1, 1, 2);
         hasWays(x, 8, 0, 1, 2);
         hasWays(x, 9, 0, 1, 8, 24, 32, 16);
-        DUE.is("all(10)", x.all(10), 729);
+        DUE.is("all(10)", Due.told(x).all(10), 729);
     }
 
     private static void highLowMore() {
         DUE.sentence("high, low: the greater, the lesser of two; more: 1, if the first is greater, else 0.");
-        DiceRing x = Due.told("let a=high(2,3);let b=low(2,3);let c=more(3,2);let d=more(2,3);let e=more(3,3);let f=high(3,3);"
-                + "let g=low(3,3);let h=high(-3,-2);let i=low(-3,-2);let j=more(-2,-3);let k=more(0,0);");
+        String x = "let a=high(2,3);let b=low(2,3);let c=more(3,2);let d=more(2,3);let e=more(3,3);let f=high(3,3);"
+                + "let g=low(3,3);let h=high(-3,-2);let i=low(-3,-2);let j=more(-2,-3);let k=more(0,0);";
         int[] want = {3, 2, 1, 0, 0, 3, 3, -2, -3, 1, 0};
         for (int k = 0; k < want.length; k++) {
             hasWays(x, k, want[k], 1);
         }
-        DiceRing y = Due.told("die a 1 4;die b 2 3;let c=high(a,b);let d=low(a,b);let e=more(a,b);let f=more(b,a);"
-                + "let g=high(b,a);let h=low(b,a);let i=more(a,0);let j=more(a,1);let k=more(a,3);let l=more(a,4);");
+        String y = "die a 1 4;die b 2 3;let c=high(a,b);let d=low(a,b);let e=more(a,b);let f=more(b,a);"
+                + "let g=high(b,a);let h=low(b,a);let i=more(a,0);let j=more(a,1);let k=more(a,3);let l=more(a,4);";
         hasWays(y, 2, 2, 1, 1, 2);
         hasWays(y, 3, 1, 2, 1, 1);
         hasWays(y, 4, 0, 2, 2);
@@ -101,7 +102,7 @@ public final class NameEdgesTest {
 
     private static void takenAway() {
         DUE.sentence("- : taken away.");
-        DiceRing x = Due.told("die a 1 3;let b=-a;let c=5-a;let d=-a-a;let e=-(a-5);let f=-2 of a;let g=-a+5;let h=0-(-(-a));");
+        String x = "die a 1 3;let b=-a;let c=5-a;let d=-a-a;let e=-(a-5);let f=-2 of a;let g=-a+5;let h=0-(-(-a));";
         hasWays(x, 1, -3, 1, 0, 1);
         hasWays(x, 2, 2, 1, 0, 1);
         hasWays(x, 3, -6, 1, 0, 2, 0, 1);

@@ -88,8 +88,9 @@ public final class OthersEdgesTest {
 
     private static void asManyPairsOfFaces() {
         DUE.sentence("dice x and y of p and q FACES (p times q is FACES of a times FACES of b),");
-        DiceRing x = Due.told(EIGHT + "die b 1 2 3;die c 7;");
+        String dice = EIGHT + "die b 1 2 3;die c 7;";
         for (int p = -2; p <= 65; p++) {
+            DiceRing x = Due.told(dice);
             for (int q = -2; q <= 65; q++) {
                 boolean told = p >= 1 && p <= q && p * q == 64;
                 DUE.is("others(0, 0, " + p + ", " + q + ", 1) is as told", x.others(0, 0, p, q, 1) != -1, told);
@@ -97,6 +98,7 @@ public final class OthersEdgesTest {
                 DUE.is("others(1, 2, " + p + ", " + q + ", 1) is as told", x.others(1, 2, p, q, 1) != -1, prime);
             }
         }
+        DiceRing x = Due.told(dice);
         none(x, 2, 2, 0, 0, 1);
         none(x, 2, 2, -1, -1, 1);
         none(x, 0, 0, -8, -8, 1);

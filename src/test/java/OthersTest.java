@@ -98,9 +98,10 @@ public final class OthersTest {
     /** All sums of the first pair are those of a and b. */
     private static void addUp(DiceRing x, int a, int b, int p, int q) {
         long[] sums = new long[121];
-        for (int i = 0; i < p; i++) {
-            for (int j = 0; j < q; j++) {
-                sums[x.otherAt(0, 0, i) + x.otherAt(0, 1, j)]++;
+        long[] ys = faces(x, 0, 1, q);
+        for (long face : faces(x, 0, 0, p)) {
+            for (long other : ys) {
+                sums[(int) (face + other)]++;
             }
         }
         long[] want = new long[121];

@@ -55,15 +55,17 @@ public final class ThrowEdgesTest {
         for (int many = 1; many <= 20; many++) {
             rolled(x, 0, l(WHOLE, WHOLE >> many), times(many, 7));
         }
-        for (int many : new int[] {21, 22, 40, 540}) {
-            DUE.is("rolled() of " + many, rolled(x, times(many, 7)), -1);
-            DUE.is("rolledBy(1) yet", x.rolledBy(1), WHOLE >> 20);
-        }
+        DiceRing y = Due.told("die a 7;die b 7 8;");
         int[] last = times(20, 7);
         last[19] = 8;
-        rolled(x, 1, l(0, WHOLE >> 20), last);
+        rolled(y, 1, l(0, WHOLE >> 20), last);
         last[0] = 9;
-        rolled(x, -1, l(), last);
+        rolled(y, -1, l(), last);
+        rolled(y, 0, l(WHOLE, WHOLE >> 20), times(20, 7));
+        for (int many : new int[] {21, 22, 40, 540}) {
+            DUE.is("rolled() of " + many, rolled(y, times(many, 7)), -1);
+            DUE.is("rolledBy(1) yet", y.rolledBy(1), WHOLE >> 20);
+        }
     }
 
     private static void zeroToSixty() {
