@@ -86,6 +86,10 @@ public final class DiceRing {
         return length;
     }
 
+    private int tapeAt(int i) {
+        return i < 0 || i >= tape.length ? 0 : tape[i];
+    }
+
     public int table() {
         int length = takeTape();
         faultKind = teller.tell(tape, length);
@@ -263,7 +267,7 @@ public final class DiceRing {
         }
         wordCount.start(dice);
         for (int i = 0; i < length; i++) {
-            wordCount.take(tape[i] - 'a');
+            wordCount.take(tapeAt(i) - 'a');
         }
         return wordCount.fairness();
     }
@@ -275,7 +279,7 @@ public final class DiceRing {
         }
         int greatest = 0;
         for (int i = 0; i < length; i++) {
-            greatest = Math.max(greatest, tape[i]);
+            greatest = Math.max(greatest, tapeAt(i));
         }
         int dice = greatest - 'a' + 1;
         if (dice < 2 || dice > MOST_DICE_IN_WORD) {
@@ -293,7 +297,7 @@ public final class DiceRing {
     private int timesOnTape(int sign, int length) {
         int times = 0;
         for (int i = 0; i < length; i++) {
-            if (tape[i] == sign) {
+            if (tapeAt(i) == sign) {
                 times++;
             }
         }
@@ -325,8 +329,8 @@ public final class DiceRing {
         }
         int wanted = 0;
         for (int i = 0; i + 1 < length; i += 2) {
-            int winner = tape[i];
-            int loser = tape[i + 1];
+            int winner = tapeAt(i);
+            int loser = tapeAt(i + 1);
             if (winner >= n || loser >= n || winner == loser) {
                 return NOT_TOLD;
             }
@@ -347,7 +351,7 @@ public final class DiceRing {
             return NONE;
         }
         for (int i = 0; i < length; i++) {
-            if (tape[i] > MOST_FACE) {
+            if (tapeAt(i) > MOST_FACE) {
                 return NONE;
             }
         }
@@ -371,7 +375,7 @@ public final class DiceRing {
         Row row = now.row(k);
         long left = WHOLE_PARTS;
         for (int i = 0; i < length; i++) {
-            left = left * row.at(tape[i]) / faces;
+            left = left * row.at(tapeAt(i)) / faces;
         }
         return left;
     }
@@ -1661,7 +1665,7 @@ public final class DiceRing {
         int dice;
 
         void start(int newDice) {
-            dice = newDice;
+            dice = Math.min(newDice, MOST_DICE_IN_WORD);
             Arrays.fill(ones, 0);
             Arrays.fill(twos, 0);
             Arrays.fill(threes, 0);
